@@ -77,6 +77,11 @@ public final class ActsTest {
         CHECK.due("last come", x.number(3), 0);
         CHECK.due("last come", x.number(1), 1);
         CHECK.due("last come", x.number(2), 2);
+        CHECK.due("a question in between", x.lost(), 2);
+        x.hang(1);
+        x.recall(1);
+        x.pass(1);
+        CHECK.due("it came last of all then", x.number(1), 0);
     }
 
     private static void atOnce() {

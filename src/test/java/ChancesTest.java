@@ -60,6 +60,13 @@ public final class ChancesTest {
         x.pass(1);
         chance(x, 0, 1, 1, 1000000);
         chance(x, 0, 7, 117649, 1000000);
+        x = Check.laid("c0,1,30,1;c0,0,9,1;c0,1,4,1;s1,4;");
+        x.pass(2);
+        chance(x, 2, 3, 3, 10);
+        x = Check.laid("c0,0,30,1;".repeat(7) + "c0,0,9,1;s1,3;r1;");
+        x.pass(1);
+        chance(x, 0, 3, 1, 1);
+        chance(x, 7, 3, 1, 1);
     }
 
     private static void dayByHand() {
@@ -77,7 +84,8 @@ public final class ChancesTest {
     /** The object's own acts, done by the same draws, must lead to the same day. */
     private static void daysByDraws() {
         String[] texts = {"c0,0,6,10;c1,0,4,25;c2,1,3,8;c3,2,9,40;c0,2,5,12;c1,6,2,30;c0,9,3,5;s1,4;r0;",
-            "c0,0,6,10;c1,0,4,25;c2,1,3,8;s2,3;r2;", "c3,0,9,1;c3,0,9,2;c3,1,9,4;c1,2,3,8;c0,3,9,16;s1,7;r1;"};
+            "c0,0,6,10;c1,0,4,25;c2,1,3,8;s2,3;r2;", "c3,0,9,1;c3,0,9,2;c3,1,9,4;c1,2,3,8;c0,3,9,16;s1,7;r1;",
+            "c0,0,9,1;c0,0,9,2;c1,0,5,4;c2,0,9,8;c0,1,9,16;c3,1,9,32;c1,2,4,60;c0,2,9,3;s2,6;r2;"};
         int[] days = {0, 1, 77, 4711, 9999};
         for (String text : texts) {
             for (int z : days) {

@@ -12,11 +12,14 @@ public final class ComesTest {
         number();
         again();
         againNone();
+        againAtTheEdges();
         best();
         needed();
         lost();
         helps();
         longest();
+        eightCallers();
+        callerZero();
         nothingChanges();
         CHECK.end();
     }
@@ -179,6 +182,23 @@ public final class ComesTest {
         CHECK.due("behind 19", x.again(2, 1), 19);
     }
 
+    private static void againAtTheEdges() {
+        NumberEleven x = Check.laid("c0,0,9,1;c0,0,30,1;c0,18,2,1;s1,20;");
+        x.pass(19);
+        CHECK.due("20 minutes more", x.again(2, 0), 20);
+        CHECK.due("behind 22", x.again(2, 1), 22);
+        x = Check.laid("c0,0,9,1;c0,0,30,1;c0,17,2,1;s1,20;");
+        x.pass(18);
+        CHECK.due("21 would be too many", x.again(2, 0), Check.NONE);
+        x = Check.laid("c0,0,9,1;c2,0,30,1;c2,0,30,1;c2,1,30,1;c2,1,30,1;s1,20;");
+        x.pass(2);
+        CHECK.due("taken beyond 60", x.again(4, 1), Check.NONE);
+        x = Check.laid("c0,0,9,1;c0,0,2,1;c3,0,3,1;s1,2;");
+        x.pass(1);
+        CHECK.due("a NERVOUS one bears it longer when it hung up", x.again(1, 0), 2);
+        CHECK.due("it is taken behind that one", x.again(1, 1), 4);
+    }
+
     private static void best() {
         NumberEleven x = Check.laid("c0,0,9,10;c0,0,1,20;s1,20;");
         CHECK.due("best(0)", x.best(0), 1);
@@ -256,6 +276,40 @@ public final class ComesTest {
         x = Check.laid("c0,0,9,1;c0,0,2,1;c0,0,2,1;s1,4;");
         CHECK.due("of several the lowest", x.longest(0), 1);
         CHECK.due("of several as much", x.longest(1), 2);
+    }
+
+    private static void eightCallers() {
+        NumberEleven x = Check.laid("c0,0,9,1;".repeat(7) + "c0,0,2,7;s1,3;");
+        CHECK.due("lost()", x.lost(), 5);
+        CHECK.due("needed()", x.needed(), Check.NONE);
+        CHECK.due("best(0)", x.best(0), 1);
+        CHECK.due("best(1)", x.best(1), 9);
+        CHECK.due("longest(0)", x.longest(0), 3);
+        CHECK.due("longest(1)", x.longest(1), 9);
+        x.pass(1);
+        CHECK.due("helps(0)", x.helps(0), 1);
+        CHECK.due("helps(1)", x.helps(1), 4);
+        CHECK.due("number(7)", x.number(7), 6);
+        CHECK.due("taken(3)", x.taken(3), Check.NONE);
+        CHECK.due("left(7)", x.left(7), 1);
+        CHECK.due("again(7, 1)", x.again(7, 1), 9);
+        CHECK.due("again(7, 0)", x.again(7, 0), 7);
+        CHECK.due("likely(7, 10, 0)", x.likely(7, 10, 0), 0);
+        CHECK.due("bears(7, 0)", x.bears(7, 0), 30);
+        CHECK.due("kinds(7)", x.kinds(7), 15);
+        CHECK.due("caller(7, 6)", x.caller(7, 6), 2);
+        CHECK.due("caller(8, 6)", x.caller(8, 6), Check.BAD);
+        CHECK.due("hang(7)", x.hang(7), 1);
+        CHECK.due("recall(7)", x.recall(7), 0);
+        CHECK.due("behind(1, 7)", x.behind(1, 7), 1);
+    }
+
+    private static void callerZero() {
+        NumberEleven x = Check.laid("c0,1,9,1;c0,0,9,1;c0,2,3,1;s1,4;");
+        x.pass(3);
+        CHECK.due("caller 0 is ahead", x.number(2), 1);
+        CHECK.due("helps(0) by caller 0", x.helps(0), 0);
+        CHECK.due("helps(1) by caller 0", x.helps(1), 0);
     }
 
     private static void nothingChanges() {

@@ -10,6 +10,7 @@ public final class LinesTest {
         wipe();
         fault();
         faultAtFirstBadItem();
+        faultBehindOtherTexts();
         lay();
         layOfDefaults();
         layForgetsAll();
@@ -105,7 +106,8 @@ public final class LinesTest {
         String[] wrong = {"c4,0,1,0;", "c0,41,1,0;", "c0,0,0,0;", "c0,0,31,0;", "c0,0,1,61;", "s0,1;", "s5,1;",
             "s1,0;", "s1,21;", "r3;", "c", "c0", "c0,", "c0,0", "c0,0,1,0", "c0,0,1;", "c0,0,1,0,", "c0,0,1,0,0;",
             "c000,0,1,0;", "c0,0,001,0;", "s1;", "s1,1,1;", "s1,1", "s,;", "r", "r1", "r;", "r1,1;", "r001;", "r1,",
-            "C0,0,1,0;", "x1;", ";", ",", " ", "1", "r 1;", "r1 ;", "r-1;", "c0;0;1;0;", "c0,,1,0;", "r1:", "r/;"};
+            "C0,0,1,0;", "x1;", ";", ",", " ", "1", "r 1;", "r1 ;", "r-1;", "c0;0;1;0;", "c0,,1,0;", "r1:", "r/;", "s1,;", "s1,:;",
+            "s,1;", "c0,0,1,;", "c0,0,:,0;", "c:,0,1,0;", "s1,1:;", "s1,/9;", "c,0,1,0;"};
         for (String text : wrong) {
             faultOf(text, 0);
         }
@@ -123,6 +125,24 @@ public final class LinesTest {
         faultOf(eight + "r1;", Check.NONE);
         faultOf(eight + "c0,0,1,0;", 72);
         faultOf(eight + "r1;c0,0,1,0;r9;", 75);
+    }
+
+    private static void faultBehindOtherTexts() {
+        NumberEleven x = new NumberEleven();
+        Check.write(x, "r1;");
+        x.wipe();
+        Check.write(x, "r1");
+        CHECK.due("what was wiped does not end it", x.fault(), 0);
+        x.wipe();
+        Check.write(x, "c0,0,1,0;".repeat(8));
+        CHECK.due("eight", x.fault(), Check.NONE);
+        CHECK.due("eight once more", x.fault(), Check.NONE);
+        faultOf("r1;".repeat(66) + "r1", 198);
+        faultOf("r1;".repeat(66) + "r;", 198);
+        faultOf("r1;".repeat(65) + "c0,0,", 195);
+        faultOf("r1;".repeat(65) + "s4,20", 195);
+        faultOf("r1;".repeat(66) + "rr", 198);
+        faultOf("r1;".repeat(65) + "s4,1;", Check.NONE);
     }
 
     private static void lay() {
@@ -148,6 +168,13 @@ public final class LinesTest {
         CHECK.due("count(6) without s", x.count(6), 1);
         CHECK.due("count(7) without s", x.count(7), 5);
         CHECK.due("count(8) without r", x.count(8), 0);
+        x = Check.laid("c0,0,1,0;s4,20;r2;");
+        x.wipe();
+        Check.write(x, "c0,0,1,0;");
+        x.lay();
+        CHECK.due("count(6) without s, laid anew", x.count(6), 1);
+        CHECK.due("count(7) without s, laid anew", x.count(7), 5);
+        CHECK.due("count(8) without r, laid anew", x.count(8), 0);
     }
 
     private static void layForgetsAll() {
@@ -247,5 +274,16 @@ public final class LinesTest {
         x.hang(1);
         CHECK.due("TOLD with one ahead", x.caller(5, 6), Check.NONE);
         CHECK.due("who gave up", x.caller(1, 6), Check.NONE);
+        x = Check.laid("c0,0,9,1;c0,0,9,1;c0,0,9,1;c3,1,2,1;s1,20;r1;");
+        x.pass(2);
+        CHECK.due("NERVOUS with none ahead", x.caller(3, 6), 2);
+        x.rule(0);
+        CHECK.due("NERVOUS, 1 at least", x.caller(3, 6), 1);
+        x = Check.laid("c0,0,9,1;c0,0,9,1;c1,1,2,1;c1,0,3,1;s1,20;r1;");
+        x.pass(2);
+        CHECK.due("who is first by number is last", x.caller(0, 6), 9);
+        CHECK.due("TOLD with none ahead", x.caller(2, 6), Check.NONE);
+        x.rule(0);
+        CHECK.due("TOLD with caller 0 ahead, too", x.caller(2, 6), 2);
     }
 }

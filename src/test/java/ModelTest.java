@@ -33,6 +33,8 @@ public final class ModelTest {
             if (random.nextInt(120) == 0 && calls + 205 < CALLS) {
                 writeText(seed);
                 due("lay()", x.lay(), y.lay());
+            } else if (y.count(2) < 2 && random.nextInt(6) == 0) {
+                crowd();
             } else if (random.nextInt(3) == 0) {
                 act();
             } else {
@@ -62,10 +64,31 @@ public final class ModelTest {
         return from(0, y.count(0) - 1);
     }
 
+    /** Mostly one who is as told (1 WAITS, 4 GAVE UP, ..), if there is one. */
+    private int callerWho(int state) {
+        int first = caller();
+        for (int i = 0; i < 8 && random.nextInt(20) != 0; i++) {
+            int c = Math.floorMod(first, 8) + i & 7;
+            if (y.caller(c, 4) == state) {
+                return c;
+            }
+        }
+        return first;
+    }
+
+    /** The line would run empty: whoever left calls again. */
+    private void crowd() {
+        for (int c = 0; c < y.count(0); c++) {
+            if (y.caller(c, 4) >= 3 && random.nextInt(4) != 0) {
+                due("recall(" + c + ")", x.recall(c), y.recall(c));
+            }
+        }
+    }
+
     private void writeText(int seed) {
         due("wipe()", x.wipe(), y.wipe());
         StringBuilder text = new StringBuilder();
-        int most = 1 + random.nextInt(8);
+        int most = random.nextInt(4) == 0 ? 1 + random.nextInt(8) : 6 + random.nextInt(3);
         int late = random.nextInt(3) == 0 ? 40 : 1 + random.nextInt(8);
         int long30 = random.nextInt(3) == 0 ? 30 : 1 + random.nextInt(12);
         for (int i = 0; i < most; i++) {
@@ -73,7 +96,7 @@ public final class ModelTest {
                 .append(1 + random.nextInt(long30)).append(',').append(random.nextInt(seed % 2 == 0 ? 61 : 4)).append(';');
         }
         if (random.nextInt(5) != 0) {
-            text.append('s').append(1 + random.nextInt(random.nextInt(3) == 0 ? 4 : 2)).append(',')
+            text.append('s').append(1 + random.nextInt(random.nextInt(4) == 0 ? 4 : 1)).append(',')
                 .append(1 + random.nextInt(random.nextInt(2) == 0 ? 20 : 5)).append(';');
         }
         text.append(random.nextInt(4) == 0 ? "" : "r" + random.nextInt(3) + ";");
@@ -93,12 +116,12 @@ public final class ModelTest {
                 a = random.nextInt(3) == 0 ? from(1, 40) : 1 + random.nextInt(4);
                 due("pass(" + a + ")", x.pass(a), y.pass(a));
                 break;
-            case 3: case 4:
-                a = caller();
+            case 3:
+                a = callerWho(random.nextInt(4) == 0 ? 2 : 1);
                 due("hang(" + a + ")", x.hang(a), y.hang(a));
                 break;
-            case 5: case 6: case 7:
-                a = caller();
+            case 4: case 5: case 6: case 7:
+                a = callerWho(random.nextInt(4) == 0 ? 3 : 4);
                 due("recall(" + a + ")", x.recall(a), y.recall(a));
                 break;
             case 8:
@@ -122,7 +145,7 @@ public final class ModelTest {
     }
 
     private void ask() {
-        int c = caller();
+        int c = random.nextBoolean() ? caller() : callerWho(1);
         int what = from(0, 1);
         switch (random.nextInt(9)) {
             case 0: askNow(c); break;
@@ -131,6 +154,7 @@ public final class ModelTest {
             case 3: askSeen(c); break;
             case 4: askChances(c, what); break;
             case 5:
+                c = callerWho(1);
                 due("again(" + c + ", " + what + ")", x.again(c, what), y.again(c, what));
                 break;
             case 6:
@@ -172,8 +196,8 @@ public final class ModelTest {
 
     private void askSeen(int c) {
         int t = from(1, random.nextBoolean() ? 40 : 8);
-        int gave = from(0, 1);
-        if (random.nextInt(8) == 0) {
+        int gave = random.nextInt(3) == 0 ? from(0, 1) : y.behind(t, c) == 4 ? 1 : 0;
+        if (random.nextInt(4) == 0) {
             due("forget()", x.forget(), y.forget());
         } else {
             due("seen(" + c + ", " + t + ", " + gave + ")", x.seen(c, t, gave), y.seen(c, t, gave));

@@ -7,6 +7,7 @@ public final class SeenTest {
         forget();
         bears();
         bearsByHowAllStands();
+        byTheCallersLaid();
         kinds();
         CHECK.end();
     }
@@ -82,6 +83,35 @@ public final class SeenTest {
         x.undo();
         x.staff(1);
         CHECK.due("as it is served", x.bears(1, 0), 0);
+    }
+
+    /** Neither a text that was only read nor an earlier question takes the place of the callers that are laid. */
+    private static void byTheCallersLaid() {
+        NumberEleven x = Check.laid("c0,0,9,1;c0,0,4,1;c3,0,5,1;s1,20;");
+        x.seen(2, 4, 1);
+        x.seen(2, 3, 0);
+        String[] asked = {"at first", "behind a text that was read", "behind bears", "behind kinds"};
+        for (int i = 0; i < asked.length; i++) {
+            if (i == 1) {
+                Check.write(x, "c1,9,9,9;c1,9,9,9;");
+                x.fault();
+            } else if (i == 2) {
+                x.bears(1, 0);
+            } else if (i == 3) {
+                x.kinds(1);
+            }
+            CHECK.due("bears " + asked[i], x.bears(2, 1), 5);
+            CHECK.due("bears " + asked[i], x.bears(2, 0), 1);
+            x.wipe();
+            Check.write(x, "c1,9,9,9;c1,9,9,9;");
+            x.fault();
+            CHECK.due("kinds " + asked[i], x.kinds(2), 8);
+        }
+        NumberEleven y = new NumberEleven();
+        y.seen(4, 7, 1);
+        y.seen(4, 6, 0);
+        CHECK.due("bears, as new", y.bears(4, 1), 5);
+        CHECK.due("kinds, as new", y.kinds(4), 3);
     }
 
     private static void kinds() {
