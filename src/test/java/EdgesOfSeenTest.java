@@ -21,6 +21,7 @@ public final class EdgesOfSeenTest {
         bearsByHowAllStands();
         kinds();
         kindsByHowAllStands();
+        byNothingElseThatWasAsked();
         likelyIsBad();
         likely();
         likelyOfNoOther();
@@ -143,6 +144,20 @@ public final class EdgesOfSeenTest {
             "kinds 2 = 9");
         EDGES.edge("26: it GAVE UP already", KIND, "seen 2 1 1", "pass 1", "hang 2 = 1", "kinds 2 = 15");
         EDGES.edge("26: it did not any more", KIND, "seen 2 1 0", "pass 1", "hang 2 = 1", "kinds 2 = 0");
+    }
+
+    /** What was tried in place of its own, or read in a TEXT that is not LAID, is gone when the next one asks. */
+    private static void byNothingElseThatWasAsked() {
+        EDGES.edge("25: KINDS was asked before", TWO, "seen 1 5 1", "kinds 1 = 0", "bears 1 0 = 5", "bears 1 1 = 1");
+        EDGES.edge("25: BEARS of another was asked before", "c0,0,9,0;c0,0,4,0;c0,0,9,0;s1,5;", "seen 2 6 1 = 1", "bears 1 0 = 30",
+            "bears 2 0 = 5", "bears 2 1 = 1");
+        EDGES.edge("25: a TEXT was read before", TWO, "seen 1 5 1", "wipe", "text c0,0,9,0;c1,9,1,0;s4,1;", "fault = NONE",
+            "bears 1 0 = 5", "bears 1 1 = 1");
+        EDGES.edge("26: BEARS was asked before", KIND, "seen 2 6 1", "bears 2 0 = 6", "kinds 2 = 9");
+        EDGES.edge("26: KINDS of another was asked before", "c0,0,9,0;c0,0,9,0;c2,0,6,0;c0,0,12,0;s1,5;", "seen 3 12 1 = 1",
+            "kinds 3 = 9", "kinds 2 = 15", "kinds 3 = 9");
+        EDGES.edge("26: a TEXT was read before", KIND, "seen 2 6 1", "wipe", "text c0,0,9,0;c0,0,9,0;c0,9,1,0;s4,1;",
+            "fault = NONE", "kinds 2 = 9");
     }
 
     private static void likelyIsBad() {

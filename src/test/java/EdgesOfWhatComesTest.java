@@ -220,6 +220,10 @@ public final class EdgesOfWhatComesTest {
         EDGES.edge("21: CALLER 0", "c0,1,9,0;c0,0,9,0;c0,2,3,0;s1,4;", "pass 3", "helps 0 = 0", "helps 1 = 0");
         EDGES.edge("21: CALLER 7", "c0,0,9,0;".repeat(2) + "c0,0,1,0;".repeat(5) + "c0,0,4,0;s1,20;", "pass 1", "helps 0 = 1",
             "helps 1 = 1", "hang 1 = 1", "helps 0 = 7", "helps 1 = 0");
+        EDGES.edge("21: the one between", "c0,0,9,0;c0,0,9,0;c0,0,4,0;c0,0,30,0;s1,5;", "pass 1", "lost = 1", "helps 0 = 2",
+            "helps 1 = 0");
+        EDGES.edge("21: the highest one", "c0,0,9,0;c0,0,9,0;c0,0,30,0;c0,0,8,0;s1,5;", "pass 1", "lost = 1", "helps 0 = 3",
+            "helps 1 = 0");
         EDGES.edge("21: nobody HANGS UP by it", TWO, "pass 1", "helps 0 = 1", "stand 2 1", "count 10 = 1");
     }
 
